@@ -27,6 +27,8 @@ public final class StageHouse {
     private static final int MOST_SPEED = 8;
     private static final int ANY_VERB = 255;
     private static final int FAR_AWAY = 999;
+    private static final int BEYOND_ALL_SQUARES = 2 * 256 * 256;
+    private static final int ALL_BUT_SIGN = 0x7fffffff;
 
     private static final int[] MARK = {80, 76, 65, 89};
     private static final int TAG_ROOM = 82;
@@ -382,7 +384,7 @@ public final class StageHouse {
         }
 
         boolean has(int n) {
-            return isNumber(n) && places[n] != 0;
+            return n > 0 && n < places.length && places[n] != 0;
         }
 
         void put(int n, int place, int end) {
@@ -591,7 +593,7 @@ public final class StageHouse {
         }
 
         private void takeNumber(Index kind) {
-            int number = place < blockEnd ? play.bytes.at(place) : NONE;
+            int number = peek();
             if (!kind.isNumber(number) || kind.has(number)) {
                 fail(FAULT_BYTE);
                 return;
@@ -601,14 +603,13 @@ public final class StageHouse {
         }
 
         private void takeVerb() {
-            int verb = play.bytes.at(place);
-            if (verb >= 0 && verb < verbsSeen.length && verbsSeen[verb] != 0) {
+            int verb = peek();
+            if (verb < 1 || verb >= verbsSeen.length || verbsSeen[verb] != 0) {
                 fail(FAULT_BYTE);
+                return;
             }
-            verb = take(1, 255);
-            if (verb != NONE) {
-                verbsSeen[verb] = 1;
-            }
+            verbsSeen[verb] = 1;
+            place++;
         }
 
         /** The next byte of the BLOCK; NONE, and a FAULT, if it is not least .. most, or not there. */
@@ -616,13 +617,17 @@ public final class StageHouse {
             if (fault != 0) {
                 return NONE;
             }
-            int taken = place < blockEnd ? play.bytes.at(place) : NONE;
+            int taken = peek();
             if (taken == NONE || taken < least || taken > most) {
                 fail(FAULT_BYTE);
                 return NONE;
             }
             place++;
             return taken;
+        }
+
+        private int peek() {
+            return place < blockEnd ? play.bytes.at(place) : NONE;
         }
 
         /** Only the first FAULT counts: what is read behind it may have come out of step. */
@@ -647,8 +652,8 @@ public final class StageHouse {
             return script != 0;
         }
 
+        /** Only of a free one, so that all else is 0. */
         void begin(int newScript, boolean saidSo) {
-            release();
             script = newScript;
             bySentence = saidSo;
         }
@@ -906,7 +911,7 @@ public final class StageHouse {
 
         int drawLuck(int below) {
             luck = luck * 1103515245 + 12345;
-            return below > 0 ? (luck & Integer.MAX_VALUE) % below : 0;
+            return below > 0 ? (luck & ALL_BUT_SIGN) % below : 0;
         }
     }
 
@@ -1071,7 +1076,7 @@ public final class StageHouse {
 
         private void findGoal(int room, int own, int x, int y) {
             measureFrom(room, own);
-            int least = Integer.MAX_VALUE;
+            int least = BEYOND_ALL_SQUARES;
             for (int i = 0; i < BOXES; i++) {
                 if (far[i] == 0) {
                     continue;

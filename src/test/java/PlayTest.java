@@ -10,6 +10,7 @@ public final class PlayTest {
         faultsOfAnObject();
         faultsOfAnActor();
         theFirstFaultCounts();
+        aBlockEndsWhereItSays();
         takesTheEdges();
         aFaultLeavesAllAsItWas();
         aPlayBeginsAnew();
@@ -121,6 +122,26 @@ public final class PlayTest {
         faulty("a tag, and its length", new int[] {80, 76, 65, 89, 66, 0, 9}, 2, 4);
         faulty("a length, and a byte", new int[] {80, 76, 65, 89, 82, 0, 9, 0}, 3, 4);
         faulty("the room's byte, and one too many", block(65, 1, 21, 0, 0, 9, 9), 4, 8);
+    }
+
+    /** What is wanted is not taken from the next BLOCK. */
+    private static void aBlockEndsWhereItSays() {
+        int[][] whole = {{82, 1, 1, 0, 0, 200, 200, 0}, {83, 1, 1}, {79, 1, 1, 1, 1, 1, 1, 1}, {65, 1, 1, 1, 1, 1}};
+        for (int[] block : whole) {
+            for (int there = 0; there < block.length - 1; there++) {
+                if (block[0] == 79 && there == 5) {
+                    continue;
+                }
+                int[] inside = Arrays.copyOfRange(block, 1, 1 + there);
+                for (int next : new int[] {82, 83, 79, 65}) {
+                    int[] bytes = new Tale().block(block[0], inside).block(next, 9, 0).bytes();
+                    faulty("tag " + block[0] + ", " + there + " bytes, then " + next, bytes, 4, 7 + there);
+                }
+            }
+        }
+        StageHouse house = new Tale().object(1, 0, 0, 0, 0, 7, 9).script(5, new int[300]).house();
+        Check.due("a tag is no VERB", house.verb(1, 83), 0);
+        Check.due("its VERBS", house.object(1, 5), 1);
     }
 
     private static void takesTheEdges() {

@@ -9,6 +9,7 @@ public final class TurnTest {
         freezes();
         endsATurnAfter300();
         startedSlotsHaveTheirTurn();
+        aFreedSlotIsAsNew();
         spillsOrders();
         Check.finish();
     }
@@ -197,6 +198,24 @@ public final class TurnTest {
         house.start(2);
         Check.due("a SLOT that was freed has no TURN", house.tick(1), 2);
         Check.due("NOTES", house.count(3), 0);
+    }
+
+    private static void aFreedSlotIsAsNew() {
+        int[] local = Tale.order(3, Tale.local(3), Tale.word(5));
+        StageHouse house = new Tale().actor(1, 0, 0, 0, 0).script(1, local, o(10, 9)).script(2, local, o(15, 1))
+            .script(3, o(22, 1), o(12, 1), o(12, 2), BREAK).script(4, BREAK, BREAK).house();
+        house.start(1);
+        house.start(2);
+        house.start(3);
+        Check.due("tick(1)", house.tick(1), 8);
+        for (int what = 0; what < 10; what++) {
+            Check.due("slot(0, " + what + ")", house.slot(0, what), 0);
+            Check.due("slot(1, " + what + ")", house.slot(1, what), 0);
+        }
+        Check.due("start(4)", house.start(4), 0);
+        Check.due("start(4)", house.start(4), 1);
+        Check.due("both run at once; the freezer CRASHES at its end", house.tick(1), 2);
+        Check.due("LOCAL 3", house.slot(0, 9), 0);
     }
 
     private static void spillsOrders() {

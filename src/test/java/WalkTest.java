@@ -5,6 +5,7 @@ public final class WalkTest {
         refusesToWalk();
         walksByXThenY();
         walksAtItsSpeed();
+        allActorsWalk();
         walksThroughTheLowestNextBox();
         walksByYWhereXIsNoGround();
         takesTheLowestBox();
@@ -83,6 +84,21 @@ public final class WalkTest {
         house.tick(50);
         Check.due("SPEED 0 stays", house.actor(2, 1), 0);
         Check.due("and walks", house.actor(2, 4), 1);
+    }
+
+    private static void allActorsWalk() {
+        Tale tale = new Tale().room(1, 0, 0, 99, 9, 0);
+        for (int a = 1; a <= 12; a++) {
+            tale.actor(a, 1, 0, 0, a % 9);
+        }
+        StageHouse house = tale.house();
+        for (int a = 1; a <= 12; a++) {
+            house.walk(a, 90, 0);
+        }
+        house.tick(3);
+        for (int a = 1; a <= 12; a++) {
+            Check.due("x of " + a, house.actor(a, 1), 3 * (a % 9));
+        }
     }
 
     private static void walksThroughTheLowestNextBox() {
