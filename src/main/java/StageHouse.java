@@ -334,7 +334,7 @@ public final class StageHouse {
             if (place < 0 || place >= size) {
                 return NONE;
             }
-            return words[place >> 2] >>> 24 - 8 * (place & 3) & 255;
+            return (words[place >> 2] >>> (24 - 8 * (place & 3))) & 255;
         }
 
         void addNumber(int number) {
