@@ -1,3 +1,7 @@
+import java.io.IOException;
+import java.io.UncheckedIOException;
+import java.nio.file.Files;
+import java.nio.file.Path;
 import java.util.NoSuchElementException;
 
 /** Counts answers that are not as due, and ends a test with exit code 1 if there was one. */
@@ -7,17 +11,39 @@ final class Check {
         int answer();
     }
 
+    private static final Path DOCUMENT = Path.of("../shared/DOC.md");
+
     private static int wrong;
     private static int asked;
+    private static String sentence = "";
+    private static String document;
 
     private Check() {
+    }
+
+    /** The answers that follow are due by this sentence; it must stand in the document, word by word. */
+    static void says(String told) {
+        sentence = "";
+        due("the document says: " + told, document().contains(told), true);
+        sentence = " [" + told + "]";
+    }
+
+    private static String document() {
+        if (document == null) {
+            try {
+                document = Files.readString(DOCUMENT);
+            } catch (IOException e) {
+                throw new UncheckedIOException(e);
+            }
+        }
+        return document;
     }
 
     static void due(String call, long got, long want) {
         asked++;
         if (got != want) {
             wrong++;
-            System.out.println(call + " answered " + got + ", due is " + want);
+            System.out.println(call + " answered " + got + ", due is " + want + sentence);
         }
     }
 
