@@ -56,6 +56,11 @@ public final class CrashEdgesTest extends Edges {
         isFree(told, house, 0);
         other.tick(1);
         same(told, look(house), look(other));
+        house.start(2);
+        other.start(2);
+        due(told + ": others run on", house.tick(2), other.tick(2));
+        due(told + ": CRASHES then", house.count(4), 1);
+        due(told + ": running then", house.count(1), 1);
     }
 
     private static void isDone(String told, int[] numbers, int[]... code) {
@@ -228,7 +233,14 @@ public final class CrashEdgesTest extends Edges {
 
     private static void onlyThatSlot() {
         says("A SLOT CRASHES (it is free then, one CRASH more, nothing else of the ORDER is done)");
-        StageHouse house = house(new int[0], o(3, l(2), w(5)), words(10, 1), CRASH);
+        int[][] ways = {CRASH, Tale.raw(20, 3), Tale.raw(20, 1, 64), Tale.raw(3, 0, 0), o(2, j(99)), words(7, 0), Tale.raw(20)};
+        for (int[] way : ways) {
+            onlyThatSlot(way);
+        }
+    }
+
+    private static void onlyThatSlot(int[] way) {
+        StageHouse house = house(new int[0], o(3, l(2), w(5)), words(10, 1), way);
         for (int i = 0; i < 3; i++) {
             house.start(2);
             house.start(1);

@@ -79,7 +79,10 @@ abstract class Edges {
         }
     }
 
-    /** All that can be asked of what runs, but for the CRASHES. */
+    /**
+     * All that can be asked of what runs, but for the CRASHES. These are more than 512 calls: what is asked
+     * of the house behind them the document leaves free, but this class answers on as before.
+     */
     static String look(StageHouse house) {
         StringBuilder seen = new StringBuilder();
         for (int what = 0; what <= 10; what++) {

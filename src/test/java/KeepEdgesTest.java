@@ -10,6 +10,7 @@ public final class KeepEdgesTest extends Edges {
         nothingRunsComesBack();
         fullRowsComeBack();
         fullNoteBookComesBack();
+        allNumbersComeBack();
         inPlaceOfWhatWas();
         againAndAgain();
         thePlayIsNotKept();
@@ -156,6 +157,45 @@ public final class KeepEdgesTest extends Edges {
             house.tick(1);
             due("it goes on", house.note(0), many + 1);
             due("NOTES in all", house.count(3), many + 1);
+        }
+    }
+
+    /** Each BOX of each ROOM, each OBJECT and each ACTOR is changed, and comes back. */
+    private static void allNumbersComeBack() {
+        says("ACTORS, STATES, OWNERS, BOXES open or SHUT");
+        Tale tale = new Tale();
+        for (int r = 1; r <= 20; r++) {
+            tale.room(r, times(16, new int[] {r, 0, r, 9, r % 2}));
+        }
+        for (int i = 1; i <= 60; i++) {
+            tale.object(i, 1, 1, 1, i);
+        }
+        for (int a = 1; a <= 12; a++) {
+            tale.actor(a, a, a, a % 9, a % 8);
+        }
+        int[] boxes = Tale.join(o(19, g(10), g(11), g(12)), o(4, g(11), w(1)), o(9, g(11), w(16), j(0)), o(3, g(11), w(0)),
+            o(4, g(10), w(1)), o(9, g(10), w(21), j(0)), END);
+        int[] things = Tale.join(o(17, g(20), w(200)), o(18, g(20), w(12)), o(4, g(20), w(1)), o(9, g(20), w(61), j(0)), END);
+        int[] people = Tale.join(o(13, g(30), w(20), w(0), w(255)), o(16, g(30), w(8)), o(14, g(30), w(7), w(7)),
+            o(4, g(30), w(1)), o(9, g(30), w(13), j(0)), END);
+        StageHouse house = tale.script(1, boxes).script(2, things).script(3, people).house();
+        house.set(10, 1);
+        house.set(20, 1);
+        house.set(30, 1);
+        for (int v = 0; v <= 1; v++) {
+            house.set(12, v);
+            comesBack("each one", house, other -> {
+                other.start(1);
+                other.start(2);
+                other.start(3);
+                other.tick(10);
+                due("the last BOX", other.box(20, 15, 4), other.variable(12));
+                due("the last BOX of ROOM 19", other.box(19, 15, 4), other.variable(12));
+                due("the last STATE", other.object(60, 3), 200);
+                due("the last OWNER", other.object(60, 4), 12);
+                due("the last ACTOR's SPEED", other.actor(12, 3), 8);
+                due("CRASHES", other.count(4), 0);
+            });
         }
     }
 

@@ -207,6 +207,8 @@ public final class OrderEdgesTest extends Edges {
     }
 
     private static void setsOwners() {
+        says("OBJECTS with STATE and OWNER (0 at first, or an ACTOR)");
+        due("OWNER at first", house(BREAK).object(1, 4), 0);
         says("18 o a: its OWNER (0: none).");
         StageHouse house = house(words(18, 60, 12), words(18, 1, 1), BREAK, words(18, 60, 0), BREAK);
         due("OWNER at first", house.object(60, 4), 0);

@@ -19,6 +19,7 @@ public final class PlayEdgesTest extends Edges {
         everyByteOfAnObject();
         verbs();
         everyByteOfAnActor();
+        inOrderAsTold();
         blocksThatEndTooEarly();
         bytesTooMany();
         numbersTwice();
@@ -26,7 +27,9 @@ public final class PlayEdgesTest extends Edges {
         namedButNotThere();
         theFirstOfTwo();
         takenPlay();
+        nothingOfThePlayBefore();
         refusedPlay();
+        cutAnywhere();
         faultAnswers();
         Check.finish();
     }
@@ -114,7 +117,7 @@ public final class PlayEdgesTest extends Edges {
             }
         }
         faulty("in a second BLOCK", Tale.join(new Tale().room(1).bytes(), new int[] {82, 0, 3, 2, 0}), 3, 9);
-        says("Numbers of two bytes have the highest first");
+        says("Numbers of two bytes have the highest first; a WORD is one of -32768 .. 32767, a COUNT one of 0 .. 65535.");
         taken("a COUNT of 258", block(83, Tale.join(new int[] {1}, times(257, END))), 1);
         taken("a COUNT of 5993", block(83, Tale.join(new int[] {1}, times(5992, END))), 1);
     }
@@ -232,6 +235,17 @@ public final class PlayEdgesTest extends Edges {
         range(65, ACTOR, 2, 0, 255);
         range(65, ACTOR, 3, 0, 255);
         range(65, ACTOR, 4, 0, 8);
+    }
+
+    private static void inOrderAsTold() {
+        says("4 a byte in it that can't be (at it; in order, as told");
+        int[][] rows = {{82, 0, 17}, {82, 1, 17, 9, 9}, {83, 0}, {79, 0, 21, 0, 0, 0, 0, 0}, {79, 1, 21, 0, 0, 0, 0, 0},
+            {79, 1, 20, 0, 0, 0, 0, 0}, {79, 1, 20, 0, 0, 0, 1, 0}, {65, 0, 21, 0, 0, 9, 9}, {65, 1, 21, 0, 0, 9, 9},
+            {65, 1, 20, 0, 0, 9, 9}, {65, 1, 20, 0, 0, 8, 9}};
+        int[] places = {7, 8, 7, 7, 8, 12, 13, 7, 8, 11, 12};
+        for (int i = 0; i < rows.length; i++) {
+            faulty("row " + i, block(rows[i][0], Arrays.copyOfRange(rows[i], 1, rows[i].length)), 4, places[i]);
+        }
     }
 
     private static void blocksThatEndTooEarly() {
@@ -359,6 +373,50 @@ public final class PlayEdgesTest extends Edges {
         Tale.put(house, new Tale().room(2, 1, 1, 2, 2, 0).bytes());
         due("a ROOM that was there before", house.play(), 1);
         due("open now", house.box(2, 0, 4), 0);
+    }
+
+    private static void nothingOfThePlayBefore() {
+        says("as it is at first, TICK 0, nothing runs");
+        int[] boxes = {0, 0, 1, 1, 1, 2, 0, 3, 1, 0, 0, 2, 1, 3, 0};
+        Tale tale = new Tale().room(1, boxes).actor(12, 1, 0, 0, 1).object(60, 0, 0, 0, 9)
+            .script(1, words(18, 60, 12), words(17, 60, 1), words(19, 1, 0, 0), words(19, 1, 1, 1), words(14, 12, 1, 1),
+                words(16, 12, 8), BREAK);
+        StageHouse house = tale.house();
+        String first = look(house);
+        house.start(1);
+        for (int i = 0; i < 64; i++) {
+            house.set(i, 100 + i);
+        }
+        house.tick(1);
+        Tale.put(house, tale.bytes());
+        due("play()", house.play(), 4);
+        same("the same PLAY again: all is as at first", look(house), first);
+        Tale.put(house, new Tale().room(1, 0, 0, 1, 1, 0, 9, 9, 9, 9, 0).actor(12, 1, 0, 0, 1).bytes());
+        due("other BOXES: play()", house.play(), 2);
+        for (int b = 0; b < 2; b++) {
+            due("they are no NEIGHBOURS", house.neighbours(1, b, 1 - b), 0);
+            due("there is no way", house.way(1, b, 1 - b), 0);
+        }
+        due("the third is gone", house.neighbours(1, 0, 2), NONE);
+        due("the GOAL", house.goal(12, 255, 255), 256 + 1);
+    }
+
+    /** What stood behind the end is no byte of the PLAY, also if it would do as one. */
+    private static void cutAnywhere() {
+        says("(at the first that is otherwise, or the end)");
+        int[] bytes = new Tale().actor(1, 1, 1, 1, 1).room(1).bytes();
+        for (int n = 0; n <= bytes.length; n++) {
+            StageHouse house = new StageHouse();
+            Tale.put(house, bytes);
+            house.end(n);
+            if (n == 4 || n == 12 || n == 17) {
+                due("cut at " + n, house.play(), n == 4 ? 0 : n == 12 ? 1 : 2);
+            } else {
+                Check.dueIllegalArgument("cut at " + n, house::play);
+                due("fault(0)", house.fault(0), n < 4 ? 1 : 3);
+                due("fault(1)", house.fault(1), n < 4 ? n : n < 12 ? 4 : 12);
+            }
+        }
     }
 
     private static void refusedPlay() {

@@ -5,6 +5,7 @@ public final class TurnEdgesTest extends Edges {
         startsNone();
         startsWithNoSlotFree();
         newSlots();
+        freedSlots();
         frozenTurns();
         delayedTurns();
         waitingTurns();
@@ -17,6 +18,7 @@ public final class TurnEdgesTest extends Edges {
         ticks();
         refusedTicks();
         mostOrders();
+        theLastCall();
         variableZero();
         actorsComeLast();
         slotAnswers();
@@ -31,12 +33,13 @@ public final class TurnEdgesTest extends Edges {
     }
 
     private static void startsInTheLowest() {
-        says("SCRIPT s is STARTED: its SLOT; NONE if it is not.");
+        says("eight SLOTS");
         StageHouse house = new Tale().script(1, loop()).script(60, words(12, 1), END).house();
         for (int i = 0; i < 8; i++) {
             due("start(1)", house.start(1), i);
         }
         due("a ninth", house.start(1), NONE);
+        says("SCRIPT s is STARTED: its SLOT; NONE if it is not.");
         house = new Tale().script(1, loop()).script(60, END).house();
         for (int i = 0; i < 8; i++) {
             house.start(i == 0 || i == 5 || i == 7 ? 60 : 1);
@@ -90,6 +93,36 @@ public final class TurnEdgesTest extends Edges {
         int[] slot = {1, 0, 0, 0, 0, 0, 0, 0, 0, 0};
         for (int what = 0; what <= 9; what++) {
             due("slot(0, " + what + ")", house.slot(0, what), slot[what]);
+        }
+    }
+
+    private static void freedSlots() {
+        says("A SLOT is free, or runs a SCRIPT");
+        StageHouse house = new Tale().actor(1, 0, 0, 0, 0).script(1, o(3, l(3), w(5)), words(10, 9)).script(2, words(15, 1))
+            .script(3, BREAK, words(22, 1), words(12, 1), words(12, 2), BREAK, BREAK).script(4, BREAK, BREAK)
+            .object(1, 0, 0, 0, 0, 1, 4).script(5, words(12, 4), END).house();
+        house.walk(1, 9, 9);
+        house.start(1);
+        house.start(2);
+        house.start(3);
+        house.tick(1);
+        due("one has a DELAY", house.slot(0, 2), 9);
+        due("one WAITS", house.slot(1, 3), 1);
+        house.tick(1);
+        for (int i = 0; i < 2; i++) {
+            isFree("freed with DELAY, WAITS, LOCALS and FROZEN", house, i);
+            due("start(4)", house.start(4), i);
+            for (int what = 1; what <= 9; what++) {
+                due("slot(" + i + ", " + what + ")", house.slot(i, what), 0);
+            }
+        }
+        due("they have TURNS at once", house.tick(1), 3);
+        house.say(1, 1, 0);
+        house.tick(1);
+        house.start(5);
+        house.tick(1);
+        for (int i = 0; i < 8; i++) {
+            due("no SLOT keeps that a SENTENCE STARTED it", house.slot(i, 5), 0);
         }
     }
 
@@ -297,6 +330,24 @@ public final class TurnEdgesTest extends Edges {
             house.start(1);
         }
         due("the most there can be", house.tick(200), 480000);
+    }
+
+    private static void theLastCall() {
+        says("An object is used for at most 512 calls after it has been made");
+        Tale tale = new Tale().script(1, o(20, g(0)), o(20, g(0)), BREAK, o(2, j(0)));
+        StageHouse house = tale.house();
+        int made = (tale.bytes().length + 19) / 20 + 2;
+        for (int i = 0; i < 8; i++) {
+            house.start(1);
+        }
+        for (int i = made + 8; i < 508; i++) {
+            house.tick(200);
+        }
+        int ticks = 200 * (508 - made - 8);
+        due("the 509th: tick(200)", house.tick(200), 200 * 8 * 4);
+        due("the 510th: NOTES in all", house.count(3), 16 * (ticks + 200));
+        due("the 511th: note(63)", house.note(63), ticks + 197);
+        due("the 512th: TICK", house.count(0), ticks + 200);
     }
 
     private static void variableZero() {

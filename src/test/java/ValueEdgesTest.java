@@ -5,6 +5,7 @@ public final class ValueEdgesTest extends Edges {
         variablesOfCode();
         localsOfCode();
         kindsOfCode();
+        anotherVariableOrLocal();
         variableTargets();
         localTargets();
         kindsOfTargets();
@@ -77,6 +78,20 @@ public final class ValueEdgesTest extends Edges {
         }
         crashes("a second VALUE's byte", Tale.raw(8, 0, 0, 0, 3, 0, 0, 0, 0), BREAK);
         crashes("a fourth VALUE's byte", o(13, w(1), w(1), w(1)), Tale.raw(3, 0, 1), BREAK);
+    }
+
+    private static void anotherVariableOrLocal() {
+        says("another VARIABLE, LOCAL");
+        for (int order = 3; order <= 7; order++) {
+            crashes("VALUE of ORDER " + order, o(order, g(9), g(64)), BREAK);
+            crashes("VALUE of ORDER " + order, o(order, g(9), l(4)), BREAK);
+            crashes("TARGET of ORDER " + order, o(order, g(64), w(1)), BREAK);
+            crashes("TARGET of ORDER " + order, o(order, l(4), w(1)), BREAK);
+            crashes("TARGET of ORDER " + order, o(order, g(255), w(1)), BREAK);
+            crashes("TARGET of ORDER " + order, o(order, l(255), w(1)), BREAK);
+        }
+        crashes("the second VALUE", o(8, w(0), g(64), j(0)), BREAK);
+        crashes("the third VALUE", o(21, w(0), w(0), l(4)), BREAK);
     }
 
     private static void variableTargets() {
