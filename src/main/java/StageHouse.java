@@ -881,8 +881,9 @@ public final class StageHouse {
             return false;
         }
 
+        /** The count wraps if there are NOTES enough; the row's index must not. */
         void addNote(int number) {
-            notes[noted % NOTES] = number;
+            notes[Math.floorMod(noted, NOTES)] = number;
             noted++;
         }
 
@@ -917,7 +918,7 @@ public final class StageHouse {
 
     /** The BOXES of all ROOMS of a PLAY, and which are NEIGHBOURS; made once, for each STEP asks. */
     private static final class Ground {
-        final int[] counts = new int[ROOMS + 1];
+        private final int[] counts = new int[ROOMS + 1];
         final int[] x0 = new int[(ROOMS + 1) * BOXES];
         final int[] y0 = new int[(ROOMS + 1) * BOXES];
         final int[] x1 = new int[(ROOMS + 1) * BOXES];
@@ -956,6 +957,10 @@ public final class StageHouse {
             int gapX = Math.max(0, Math.max(x0[b], x0[c]) - Math.min(x1[b], x1[c]));
             int gapY = Math.max(0, Math.max(y0[b], y0[c]) - Math.min(y1[b], y1[c]));
             return gapX + gapY <= 1;
+        }
+
+        int boxesIn(int room) {
+            return room > 0 && room <= ROOMS ? counts[room] : 0;
         }
 
         boolean hasBox(int room, int box) {
@@ -1024,7 +1029,7 @@ public final class StageHouse {
         }
 
         int boxOf(Actor actor) {
-            int boxes = ground.counts[actor.room];
+            int boxes = ground.boxesIn(actor.room);
             for (int i = 0; i < boxes; i++) {
                 boolean isShut = (stage.shut[actor.room] >> i & 1) != 0;
                 if (!isShut && ground.hasPoint(actor.room, i, actor.x, actor.y)) {

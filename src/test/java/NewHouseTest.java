@@ -6,6 +6,7 @@ public final class NewHouseTest {
         hasNothing();
         takesCallsAllTheSame();
         playsWhatTheReadmeTells();
+        walksAsTheReadmeTells();
         Check.finish();
     }
 
@@ -71,5 +72,25 @@ public final class NewHouseTest {
         Check.due("start(1)", house.start(1), 0);
         Check.due("tick(1)", house.tick(1), 2);
         Check.due("note(0)", house.note(0), 7);
+    }
+
+    private static void walksAsTheReadmeTells() {
+        StageHouse house = new StageHouse();
+        house.feed(0x504c4159, 0x52000701, 0x01000064, 0x32004100, 0x0501010a);
+        Check.due("feed", house.feed(0x0a040000, 0, 0, 0, 0), 40);
+        Check.due("end(22)", house.end(22), true);
+        Check.due("play()", house.play(), 2);
+        Check.due("goal(1, 200, 13)", house.goal(1, 200, 13), 25613);
+        Check.due("walk(1, 20, 13)", house.walk(1, 20, 13), true);
+        Check.due("tick(3)", house.tick(3), 0);
+        Check.due("x", house.actor(1, 1), 20);
+        Check.due("y", house.actor(1, 2), 12);
+        Check.due("walks", house.actor(1, 4), 1);
+        Check.due("keep()", house.keep(), true);
+        house.tick(1);
+        Check.due("y", house.actor(1, 2), 13);
+        Check.due("walks no more", house.actor(1, 4), 0);
+        Check.due("back()", house.back(), true);
+        Check.due("y", house.actor(1, 2), 12);
     }
 }

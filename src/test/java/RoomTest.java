@@ -1,4 +1,5 @@
 import java.lang.management.ManagementFactory;
+import java.lang.reflect.Field;
 
 /**
  * All calls of a run live in one room: what is made is made in the constructor. Also the dearest calls
@@ -13,6 +14,7 @@ public final class RoomTest {
         theDearestTickMakesNothing();
         theLongestPlayIsTaken();
         anyNumbersDo();
+        countsMayWrap();
         Check.finish();
     }
 
@@ -136,6 +138,37 @@ public final class RoomTest {
             return 1;
         } catch (java.util.NoSuchElementException e) {
             return 0;
+        }
+    }
+
+    /**
+     * Far behind the 512th call all answers are free, but no call may throw by itself; the counts are set
+     * from outside, for two thousand million NOTES would take too long.
+     */
+    private static void countsMayWrap() {
+        StageHouse house = busyHouse();
+        for (String count : new String[] {"ticks", "noted", "crashes", "spilled"}) {
+            setCount(house, count, Integer.MAX_VALUE);
+        }
+        Check.due("ORDERS, over the greatest count", house.tick(200), 480000);
+        Check.due("NOTES, over the greatest count", house.count(3) < 0, true);
+        Check.dueNoSuchElement("note(0)", () -> house.note(0));
+        setCount(house, "noted", -1);
+        Check.due("ORDERS, over 0", house.tick(1), 2400);
+        Check.due("NOTES, over 0", house.count(3) > 0, true);
+        Check.due("note(63), a number that LUCK left by 256", house.note(63) >= 0 && house.note(63) < 256, true);
+        Check.dueNoSuchElement("note(64)", () -> house.note(64));
+    }
+
+    private static void setCount(StageHouse house, String count, int number) {
+        try {
+            Field stage = StageHouse.class.getDeclaredField("stage");
+            stage.setAccessible(true);
+            Field field = stage.getType().getDeclaredField(count);
+            field.setAccessible(true);
+            field.setInt(stage.get(house), number);
+        } catch (ReflectiveOperationException e) {
+            throw new IllegalStateException(e);
         }
     }
 }
